@@ -432,14 +432,11 @@ public final class BridleBook {
 
     // ---- lines and their kites
 
-    private static boolean isOn(Kite k, int line) {
-        return k != null && k.line == line;
-    }
-
     private int kitesOn(int line) {
         int n = 0;
         for (int i = 0; i < kiteCount; i++) {
-            if (isOn(kiteAt(i), line)) {
+            Kite k = kiteAt(i);
+            if (k != null && k.line == line) {
                 n++;
             }
         }
@@ -456,7 +453,7 @@ public final class BridleBook {
         int lifts = -l.steps * l.weight;
         for (int i = 0; i < kiteCount; i++) {
             Kite k = kiteAt(i);
-            if (isOn(k, line)) {
+            if (k != null && k.line == line) {
                 int v = evenWind == BY_BANDS ? windAt(k.step) : evenWind;
                 lifts += k.upAt(tables, v, k.standingAngle(tables, v, k.knot));
             }
@@ -468,7 +465,7 @@ public final class BridleBook {
         train.clear();
         for (int i = 0; i < kiteCount; i++) {
             Kite k = kiteAt(i);
-            if (isOn(k, line)) {
+            if (k != null && k.line == line) {
                 int v = windAt(k.step);
                 int angle = k.standingAngle(tables, v, k.knot);
                 train.hang(k.step, k.upAt(tables, v, angle), k.backAt(tables, v, angle));
@@ -495,7 +492,7 @@ public final class BridleBook {
     private void sever(int line, Line l, int step) {
         for (int i = 0; i < kiteCount; i++) {
             Kite k = kiteAt(i);
-            if (isOn(k, line) && k.step >= step) {
+            if (k != null && k.line == line && k.step >= step) {
                 k.line = NO_LINE;
             }
         }
