@@ -734,6 +734,9 @@ public final class PromisesTest {
             due("more", b.flyer(0, i), i + 1);
         }
         due("all lines have one", b.flyer(0, 0), NOT);
+        due("no flyer 10", b.why(10), BAD);
+        due("no flyer 11", b.cone(11, 0), BAD);
+        due("no agreement with 10", b.agree(0, 10, 1), BAD);
         due("count", b.count(2), 10);
     }
 
@@ -949,6 +952,9 @@ public final class PromisesTest {
         due("full for others", b.turn(0, 2, 1), FULL);
         due("BAD ahead of FULL", b.turn(0, 0, 1), BAD);
         due("count", b.count(5), 200);
+        due("a free line beside a full row", b.undo(2), 0);
+        due("not tangled in a full row", b.tangled(0, 2), 0);
+        due("FREE beside a full row", b.count(7), 1);
         due("unwind", b.unwind(1), 199);
         due("room again", b.turn(1, 2, 1), 200);
     }
