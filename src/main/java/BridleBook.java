@@ -339,22 +339,14 @@ public final class BridleBook {
     // ---- turns
 
     public int turn(int a, int b, int way) {
-        if (lineAt(a) == null || lineAt(b) == null || a == b || (way != 1 && way != -1)) {
+        if (!areTwoLines(a, b) || (way != 1 && way != -1)) {
             return BAD;
         }
-        // The document says "FULL: 200" without an exception for a turn that would undo the last one.
-        if (row.size >= MAX_TURNS) {
-            return FULL;
-        }
-        row.push(TurnRow.codeOf(a, b, way));
-        return row.size;
+        return row.push(TurnRow.codeOf(a, b, way)) ? row.size : FULL;
     }
 
     public int tangled(int a, int b) {
-        if (lineAt(a) == null || lineAt(b) == null) {
-            return BAD;
-        }
-        return row.turnsOf(a, b);
+        return areTwoLines(a, b) ? row.turnsOf(a, b) : BAD;
     }
 
     public int undo(int line) {
@@ -371,7 +363,7 @@ public final class BridleBook {
 
     public int cut(int a, int b, int step) {
         Line l = lineAt(b);
-        if (lineAt(a) == null || l == null || !within(step, 1, l.steps)) {
+        if (l == null || !areTwoLines(a, b) || !within(step, 1, l.steps)) {
             return BAD;
         }
         if (row.turnsOf(a, b) == 0) {
@@ -424,6 +416,10 @@ public final class BridleBook {
 
     private Line lineAt(int line) {
         return within(line, 0, lineCount - 1) ? lines[line] : null;
+    }
+
+    private boolean areTwoLines(int a, int b) {
+        return a != b && lineAt(a) != null && lineAt(b) != null;
     }
 
     private Flyer flyerAt(int flyer) {
@@ -885,13 +881,18 @@ public final class BridleBook {
             return pair / 10 == line || pair % 10 == line;
         }
 
-        void push(int turn) {
+        // A turn that undoes the last one needs no place, so it goes into a full row too.
+        boolean push(int turn) {
             if (size > 0 && turns[size - 1] == -turn) {
                 size--;
-            } else if (size < MAX_TURNS) {
-                turns[size] = turn;
-                size++;
+                return true;
             }
+            if (size >= MAX_TURNS) {
+                return false;
+            }
+            turns[size] = turn;
+            size++;
+            return true;
         }
 
         int turnsOf(int a, int b) {

@@ -524,14 +524,15 @@ public final class ModelTest {
                     if (noLine(a) || noLine(b) || a == b || (c != 1 && c != -1)) {
                         return BAD;
                     }
-                    if (row.size() == 200) {
-                        return FULL;
-                    }
                     row.add(new int[] {Math.min(a, b), Math.max(a, b), c});
                     reduce();
+                    if (row.size() > 200) {
+                        row.remove(row.size() - 1);
+                        return FULL;
+                    }
                     return row.size();
                 case "tangled":
-                    return noLine(a) || noLine(b) ? BAD : tangledTurns(a, b);
+                    return noLine(a) || noLine(b) || a == b ? BAD : tangledTurns(a, b);
                 case "undo":
                     return noLine(a) ? BAD : undone(a);
                 case "unwind":
@@ -543,7 +544,7 @@ public final class ModelTest {
                     }
                     return row.size();
                 case "cut":
-                    if (noLine(a) || noLine(b) || out(c, 1, lines.get(b).steps)) {
+                    if (noLine(a) || noLine(b) || a == b || out(c, 1, lines.get(b).steps)) {
                         return BAD;
                     }
                     if (tangledTurns(a, b) == 0) {
@@ -642,7 +643,10 @@ public final class ModelTest {
         "flyer", "blow", "tree", "agree", "agree", "fly", "fly", "why", "why", "cone", "cone"};
     private static final String[] TURNS = {
         "turn", "turn", "turn", "turn", "tangled", "undo", "unwind", "cut", "count"};
-    private static final String[][] GROUPS = {KITES, LINES, FIELD, TURNS};
+    // Turns nearly alone, so that the row gets full and is undone from there.
+    private static final String[] WINDING = {
+        "turn", "turn", "turn", "turn", "turn", "turn", "turn", "turn", "turn", "tangled", "undo", "cut"};
+    private static final String[][] GROUPS = {KITES, LINES, FIELD, TURNS, WINDING};
     private static final int[] ODD = {-1, Integer.MIN_VALUE, Integer.MAX_VALUE, -100, 100, 18, 20, 201, 40000, 100000};
 
     private static int between(Random r, int low, int high) {
@@ -717,7 +721,7 @@ public final class ModelTest {
             String[] start = {"kite", "line", "panel", "flyer", "kite", "line", "panel"};
             return start[call % start.length];
         }
-        String[] group = GROUPS[r.nextInt(3) == 0 ? r.nextInt(4) : run % 4];
+        String[] group = GROUPS[r.nextInt(3) == 0 ? r.nextInt(GROUPS.length) : run % GROUPS.length];
         String name = group[r.nextInt(group.length)];
         return isSkipped(r, name) ? "count" : name;
     }

@@ -91,7 +91,6 @@ public final class PromisesTest {
         cut();
         cutUndoesAgainAndAgain();
         count();
-        readings();
     }
 
     // ---- kites
@@ -952,6 +951,12 @@ public final class PromisesTest {
         due("full for others", b.turn(0, 2, 1), FULL);
         due("BAD ahead of FULL", b.turn(0, 0, 1), BAD);
         due("count", b.count(5), 200);
+        due("undoes the last of a full row", b.turn(1, 0, -1), 199);
+        due("one is gone", b.count(5), 199);
+        due("room behind it", b.turn(0, 1, 1), 200);
+        due("full again", b.turn(0, 1, 1), FULL);
+        due("the other way, other lines", b.turn(0, 2, -1), FULL);
+        due("FULL changes nothing", b.count(5), 200);
         due("a free line beside a full row", b.undo(2), 0);
         due("not tangled in a full row", b.tangled(0, 2), 0);
         due("FREE beside a full row", b.count(7), 1);
@@ -965,6 +970,7 @@ public final class PromisesTest {
         due("no a", b.tangled(4, 0), BAD);
         due("no b", b.tangled(0, 4), BAD);
         due("a -1", b.tangled(-1, 0), BAD);
+        due("one and the same", b.tangled(1, 1), BAD);
         due("none", b.tangled(0, 1), 0);
         b.turn(0, 1, 1);
         b.turn(1, 2, 1);
@@ -974,6 +980,7 @@ public final class PromisesTest {
         due("the other way about", b.tangled(1, 0), 2);
         due("1 and 2", b.tangled(2, 1), 1);
         due("0 and 2", b.tangled(0, 2), 0);
+        due("one and the same, tangled", b.tangled(0, 0), BAD);
     }
 
     private static void undo() {
@@ -1025,6 +1032,9 @@ public final class PromisesTest {
         due("no b", b.cut(0, 4, 1), BAD);
         due("step 0", b.cut(0, 1, 0), BAD);
         due("step 11", b.cut(0, 1, 11), BAD);
+        due("one and the same", b.cut(1, 1, 1), BAD);
+        due("nothing is cut", b.ofLine(1, 0), 10);
+        due("nothing is undone", b.count(5), 3);
         due("not tangled", b.cut(0, 2, 1), NOT);
         due("BAD ahead of NOT", b.cut(0, 2, 11), BAD);
         due("cut", b.cut(0, 1, 5), 1);
@@ -1090,21 +1100,5 @@ public final class PromisesTest {
         due("-1", b.count(-1), BAD);
         due("8", b.count(8), BAD);
         due("MIN", b.count(MIN), BAD);
-    }
-
-    /** Where the document leaves a doubt: the readings that NOTES.md tells. */
-    private static void readings() {
-        BridleBook b = withLines(2);
-        b.turn(0, 1, 1);
-        promise = 28;
-        due("a line and itself", b.tangled(0, 0), 0);
-        promise = 31;
-        due("a line cuts itself", b.cut(1, 1, 1), NOT);
-        promise = 27;
-        for (int i = 2; i <= 200; i++) {
-            b.turn(0, 1, 1);
-        }
-        due("full, though it would undo", b.turn(0, 1, -1), FULL);
-        due("nothing is undone", b.count(5), 200);
     }
 }
